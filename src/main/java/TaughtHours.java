@@ -746,7 +746,7 @@ public final class TaughtHours {
 
         private void listGains(int hours, int state) {
             int row = hours * CHILDREN;
-            Arrays.fill(partners, row, row + CHILDREN, 0);
+            for (int c = 0; c < children; c++) partners[row + c] = 0;
             for (int pupil = 0; pupil < children; pupil++) {
                 int set = learnable(pupil, state);
                 for (int c = 0; c < children; c++) {
@@ -830,7 +830,10 @@ public final class TaughtHours {
             return ways;
         }
 
-        /** By rows from a child on (six at most): itself as many as its sources, each source one less than none. */
+        /**
+         * The determinant by its rows from a child on (six deep at most): in a child's row
+         * stands, at itself, how many sources it has, and -1 at each source.
+         */
         private int minor(int child, int columns) {
             if (child >= CHILDREN) return 1;
             if (!has(rows, child)) return minor(child + 1, columns);

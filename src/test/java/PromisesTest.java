@@ -723,9 +723,20 @@ public final class PromisesTest {
         x.know(0, 0, -1);
         due("read back", x.hour(0, 0, 4, 1), 1);
         due("who learnt", x.told(0, 1), 1);
+        // 1 2 0 of the first three: read back as 1 > 2 a
+        x = Check.school("p,p,p");
+        x.know(0, 1, 1);
+        x.know(1, 1, 2);
+        x.know(2, 1, 0);
+        x.know(1, 0, 5);
+        x.sheet(0, 1, 3);
+        due("all of them", x.film(1, 0, 1, 0), 3);
+        due("read back", x.hour(0, 1, 0, 1), 1);
+        due("what it says", x.told(2, 3), 5);
         for (int lane = 0; lane < 3; lane++) {
             x.sheet(1, lane, 6);
-            due("lane", x.film(1, 1, lane, 0), 5);
+            due("lane", x.film(3, 1, lane, 3), 3);
+            due("lane", x.film(2, 1, lane, 0), 3);
             due("97 is no child", x.hour(1, lane, 0, 1), NOT);
         }
         x = new TaughtHours();
